@@ -227,6 +227,11 @@ public final class FaultsTest {
         value("8192 * 8192 * 32 - 1 < 0", 0);
         value("8192 * 8192 * 32 < 0", 1);
         value("1*(2+(3+(4*(5-1)*1)*1)*1)*1-0", 21);
+        String deep = "1";
+        for (int i = 0; i < 5; i++) {
+            deep = "0 or 5 = 3 + 2 * " + (i == 0 ? deep : "( " + deep + " )");
+        }
+        value(deep, 1);
         StringBuilder sum = new StringBuilder("1");
         for (int i = 0; i < 470; i++) {
             sum.append(i % 2 == 0 ? "+1" : "-1");

@@ -516,6 +516,9 @@ public final class PromisesTest {
         y.feel(1, true);
         Check.due("15 to 25: c fits one of them", y.ask(), 2);
         Check.due("no trees", new ShoeOrchard().ask(), -1);
+        ShoeOrchard z = Check.of("tree a boot last 30 age 10 ; tree b boot last 30 age 8 ; bears size + years ;");
+        z.feel(0, true);
+        Check.due("b parts 39 from 40", z.ask(), 1);
     }
 
     private static void pairsIdleSoleTwinsBest() {
@@ -630,6 +633,8 @@ public final class PromisesTest {
         Check.due("steps 0", x.ages(1, 0, 0), -1);
         Check.due("steps 100", x.ages(1, 100, 0), -1);
         Check.due("seed -1", x.ages(-1, 1, 0), -1);
+        // the draws of seed 0 begin with 0, 21468, 9988: p, a pinches, 4
+        Check.due("seed 0", x.ages(0, 1, 0), 0);
         Check.due("seed 10000", x.ages(10000, 1, 0), -1);
         ShoeOrchard none = Check.of("tree a boot last 5 age 0 ;");
         none.year();
@@ -665,6 +670,15 @@ public final class PromisesTest {
         Check.tellMorning(x, "year ;");
         x.mark(0, true);
         Check.due("a MORNING is not on it", x.count(9), 1);
+        ShoeOrchard y = Check.of("tree a boot last 9 age 0 ;");
+        y.mark(0, false);
+        y.feel(0, true);
+        y.mark(1, false);
+        y.mark(0, true);
+        y.feel(0, false);
+        Check.due("it pinched", y.feet(0), 38);
+        y.mark(1, true);
+        Check.due("it fitted", y.feet(0), 3);
         Check.due("mark 4", x.mark(4, false), false);
         Check.due("mark -1", x.mark(-1, false), false);
         Check.due("mark 4", x.mark(4, true), false);
