@@ -4,15 +4,21 @@ import java.util.NoSuchElementException;
 final class Check {
     private static int asked = 0;
     private static int wrong = 0;
+    /** What the answers that follow are asked for; it stands before each that is not as due. */
+    private static String about = "";
 
     private Check() {
+    }
+
+    static void about(String what) {
+        about = what;
     }
 
     static void due(String what, long got, long want) {
         asked++;
         if (got != want) {
             wrong++;
-            System.out.println(what + " answered " + got + ", due is " + want);
+            System.out.println(about + what + " answered " + got + ", due is " + want);
         }
     }
 
@@ -60,6 +66,20 @@ final class Check {
         ShoeOrchard orchard = new ShoeOrchard();
         due("orchard of " + text, tell(orchard, text), 0);
         return orchard;
+    }
+
+    /** The FAULT's kind, at the place of the sign ^ in the text (which is left out), 0: none. */
+    private static int faultOf(int kind, String text) {
+        return kind == 0 ? 0 : kind + 16 * text.indexOf('^');
+    }
+
+    static void orchardFault(int kind, String text) {
+        due("orchard " + text, tell(new ShoeOrchard(), text.replace("^", "")), faultOf(kind, text));
+    }
+
+    /** Of a MORNING of the ORCHARD told. */
+    static void morningFault(int kind, String told, String text) {
+        due("morning " + text, tellMorning(of(told), text.replace("^", "")), faultOf(kind, text));
     }
 
     /** What rests answers, -99 where it throws what it should. */

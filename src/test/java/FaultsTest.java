@@ -18,17 +18,12 @@ public final class FaultsTest {
         Check.end();
     }
 
-    /** The FAULT's kind, at the place of the sign ^ in the text (which is left out), 0: none. */
     private static void orchardFault(int kind, String text) {
-        ShoeOrchard orchard = new ShoeOrchard();
-        int want = kind == 0 ? 0 : kind + 16 * text.indexOf('^');
-        Check.due("orchard " + text, Check.tell(orchard, text.replace("^", "")), want);
+        Check.orchardFault(kind, text);
     }
 
     private static void morningFault(int kind, String text) {
-        ShoeOrchard orchard = Check.of(TOLD);
-        int want = kind == 0 ? 0 : kind + 16 * text.indexOf('^');
-        Check.due("morning " + text, Check.tellMorning(orchard, text.replace("^", "")), want);
+        Check.morningFault(kind, TOLD, text);
     }
 
     private static void tapes() {
