@@ -22,6 +22,9 @@ final class ChanceEdges {
         yearsAndGrafts();
         asAhead();
         steps();
+        lastsOfAges();
+        oldTreesOfAges();
+        grownFeetOfAges();
     }
 
     private static int power(int base, int often) {
@@ -136,8 +139,8 @@ final class ChanceEdges {
 
     private static void restsByOther() {
         Sentence.of("33", "both keep: nothing: RESTS: by which neither would get more by the other");
-        ShoeOrchard x = new ShoeOrchard();
         for (int pays = 0; pays < 1000; pays++) {
+            ShoeOrchard x = new ShoeOrchard();
             int both = pays / 100;
             int loses = pays / 10 % 10;
             int gets = pays % 10;
@@ -353,6 +356,55 @@ final class ChanceEdges {
                     int[] due = played(seed, steps, lasts, feet, noon);
                     Check.dueRow(steps + " steps by " + seed, new int[] {x.ages(seed, steps, 0), x.ages(seed, steps, 1), x.ages(seed, steps, 2)}, due);
                 }
+            }
+        }
+    }
+
+    /** How often one is SHOD by a TRY, a YEAR and another TRY, of one TREE and one PERSON. */
+    private static void tryYearTry(String what, ShoeOrchard x, int due) {
+        int found = 0;
+        for (int seed = 0; seed < 200 && found < 4; seed++) {
+            if (drawn(seed, 3) % 6 == 0) {
+                found++;
+                Check.due(what + " by " + seed, x.ages(seed, 2, 0), due);
+            }
+        }
+        Check.due("there were years", found, 4);
+    }
+
+    private static void lastsOfAges() {
+        Sentence.of("34", "each TREE that does not BEAR has its last 1 less (0 at least)");
+        for (int last = 0; last <= 3; last++) {
+            for (int feet = 7; feet <= 11; feet++) {
+                ShoeOrchard x = Check.of(OneAndOne.text("slipper", last, "plain", feet) + "pinch 0 ; frost 1 0 ; bears 10 - size ;");
+                tryYearTry("last " + last + ", feet " + feet, x, 10 - Math.max(0, last - 1) == feet ? 1 : 0);
+            }
+        }
+    }
+
+    private static void oldTreesOfAges() {
+        Sentence.of("34", "all TREES are 1 older (99 at most)");
+        ShoeOrchard x = Check.of(OneAndOne.text("boot", 0, "plain", 30).replace("age 0", "age 20") + "pinch 0 ; bears years - 69 ;");
+        ShoeOrchard y = Check.of(OneAndOne.text("boot", 0, "plain", 30).replace("age 0", "age 20") + "pinch 0 ; bears years - 70 ;");
+        for (int age = 20; age <= 101; age++) {
+            if (age >= 97) {
+                tryYearTry("99 by " + age, x, age == 97 ? 0 : age == 98 ? 1 : 2);
+                tryYearTry("100 by " + age, y, 0);
+            }
+            x.year();
+            y.year();
+        }
+    }
+
+    private static void grownFeetOfAges() {
+        Sentence.of("34", "a child has 2 more feet (40 at most)");
+        for (int feet = 28; feet <= 30; feet++) {
+            ShoeOrchard x = Check.of(OneAndOne.text("boot", 0, "child", feet) + "pinch 0 ; bears 40 ;");
+            for (int year = 0; year <= 7; year++) {
+                boolean now = feet + 2 * year >= 40;
+                boolean then = feet + 2 * year + 2 >= 40;
+                tryYearTry(feet + " in year " + year, x, (now ? 1 : 0) + (then ? 1 : 0));
+                x.year();
             }
         }
     }

@@ -350,22 +350,27 @@ final class DoingEdges {
         }
     }
 
+    private static ShoeOrchard actedOn(int acts) {
+        ShoeOrchard x = toActOn();
+        for (int i = 0; i < acts; i++) {
+            act(x, i % 6);
+        }
+        return x;
+    }
+
     private static void oneByOne() {
         Sentence.of("8-13", "UNDO: all of these, the last 16, one by one");
-        for (int round = 0; round < 3; round++) {
-            ShoeOrchard x = toActOn();
-            String[] before = new String[6 * (round + 1)];
-            for (int i = 0; i < before.length; i++) {
-                before[i] = all(x);
-                act(x, i % 6);
-                Check.due("act " + i + " is done", all(x).equals(before[i]), false);
+        for (int acts = 1; acts <= 18; acts++) {
+            Check.due("act " + acts + " is done", all(actedOn(acts)).equals(all(actedOn(acts - 1))), false);
+            int held = Math.min(16, acts);
+            for (int undone = 0; undone <= held; undone++) {
+                ShoeOrchard x = actedOn(acts);
+                for (int i = 0; i < undone; i++) {
+                    Check.due("undo", x.undo(), true);
+                }
+                Check.due(undone + " of " + acts + " undone", all(x).equals(all(actedOn(acts - undone))), true);
+                Check.due("more can be", x.undo(), undone < held);
             }
-            int held = Math.min(16, before.length);
-            for (int i = before.length - 1; i >= before.length - held; i--) {
-                Check.due("undo", x.undo(), true);
-                Check.due("as before act " + i, all(x).equals(before[i]), true);
-            }
-            Check.due("no more", x.undo(), false);
         }
     }
 
@@ -484,6 +489,23 @@ final class DoingEdges {
         x.mark(1, true);
         Check.due("5 are there", x.feel(0, true), true);
         Check.due("6", x.count(10), 6);
+        ShoeOrchard y = Check.of("tree a boot last 5 age 0 ; tree b boot last 7 age 0 ; pinch 1 ;");
+        y.mark(0, false);
+        y.feel(0, true);
+        y.feel(1, false);
+        y.mark(1, false);
+        y.mark(0, true);
+        y.feel(1, true);
+        y.feel(0, false);
+        y.mark(2, false);
+        y.feel(0, true);
+        Check.dueRow("none of 7, 8 and 4, 5, 6", new int[] {y.count(10), y.feet(0)}, 3, 0);
+        y.mark(1, true);
+        Check.dueRow("by a, not by b", new int[] {y.count(10), y.feet(0), y.feet(1), y.feet(2)}, 2, 2, 4, 5);
+        y.mark(2, true);
+        Check.dueRow("by b, not by a", new int[] {y.count(10), y.feet(0), y.feet(1), y.feet(2)}, 2, 2, 7, 8);
+        y.mark(0, true);
+        Check.dueRow("by none", new int[] {y.count(10), y.feet(0), y.feet(1), y.feet(2)}, 0, 41, 0, 40);
     }
 
     private static void marksAndUndo() {

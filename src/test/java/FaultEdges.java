@@ -222,7 +222,7 @@ final class FaultEdges {
     }
 
     /** An object of which all has been used. */
-    private static ShoeOrchard used() {
+    static ShoeOrchard used() {
         ShoeOrchard x = Check.of("tree a boot last 9 age 3 ; tree b slipper last 4 age 2 ; person p child feet 9 ; person q plain feet 9 ; "
                 + "pinch 2 ; noon 2 ; frost 1 2 ; bears size + 1 ;");
         Check.tellMorning(x, "try p a ; year ; year ;");

@@ -21,6 +21,7 @@ final class FittingEdges {
         whenNoughtToForty();
         laterNoughtToForty();
         laterIfItBears();
+        lastsOfYearsToCome();
         pairs();
         idle();
         sole();
@@ -354,6 +355,18 @@ final class FittingEdges {
         for (int years = 0; years < 9; years++) {
             Check.due("brogue in " + years, x.later(0, years), brogue[years]);
             Check.due("sandal in " + years, x.later(1, years), sandal[years]);
+        }
+    }
+
+    private static void lastsOfYearsToCome() {
+        Sentence.of("21 22", "each TREE that does not BEAR has its last 1 less (0 at least)");
+        for (int last = 0; last <= 4; last++) {
+            int size = 10 - Math.max(0, last - 2);
+            for (int feet = 7; feet <= 12; feet++) {
+                ShoeOrchard x = Check.of(OneAndOne.text("slipper", last, "plain", feet) + "pinch 0 ; frost 1 1 0 3 3 3 3 3 3 3 3 3 ; bears 10 - size ;");
+                Check.dueRow("last " + last + " in 1, 2, 14", row(x.later(0, 1), x.later(0, 2), x.later(0, 14)), -1, size, 10);
+                Check.due("last " + last + " for " + feet, x.when(0), feet == size ? 2 : feet == 10 ? 14 : -1);
+            }
         }
     }
 

@@ -10,6 +10,7 @@ final class FormulaEdges {
         products();
         parts();
         withinFive();
+        mostThatWaits();
         oneOrNought();
         whatIsSo();
         wrapping();
@@ -152,6 +153,19 @@ final class FormulaEdges {
         Check.orchardFault(0, "bears not not not not 1 * not not not not 2 + ( ( ( ( 3 ) ) ) ) and ( not ( not 4 ) ) ;");
         Check.orchardFault(5, "bears 1 + ( ( ( ( 2 ) ) ) ) + ( ( ( ( ( ^3 ) ) ) ) ) ;");
         Check.orchardFault(5, "bears ( ( ( ( 2 * not ^3 ) ) ) ) ;");
+    }
+
+    /** At each depth that may be, the left sides of or, =, + and * wait for what lies deeper. */
+    private static void mostThatWaits() {
+        Sentence.of("3 5", "no PART lies within 5 of not and ( )");
+        for (int factor = 0; factor <= 2; factor++) {
+            String formula = "0 or 7 = 5 + 2 * " + factor;
+            for (int depth = 1; depth <= 4; depth++) {
+                formula = "0 or 7 = 5 + 2 * ( " + formula + " )";
+            }
+            value(formula, factor == 1 ? 1 : 0);
+            value(formula.replace("0 or", "1 and"), factor == 1 ? 1 : 0);
+        }
     }
 
     /** Below 0 as a PART. */

@@ -10,6 +10,7 @@ final class GuessingEdges {
         asAllIsWhenAsked();
         allThatIsFelt();
         none();
+        askNoughtToForty();
         askTheLeast();
         askLessThanAll();
         askTheFirst();
@@ -119,6 +120,22 @@ final class GuessingEdges {
             Check.due("what " + what, x.feet(what), -1);
             Check.due("what " + what, new ShoeOrchard().feet(what), -1);
         }
+    }
+
+    private static void askNoughtToForty() {
+        Sentence.of("25", "an unknown plain PERSON (feet 0 to 40)");
+        ShoeOrchard low = Check.of("tree a boot last 0 age 0 ; tree b boot last 2 age 0 ; pinch 1 ;");
+        low.feel(0, true);
+        feet("0 and 1", low, 2, 0, 1);
+        Check.due("b parts 0 from 1", low.ask(), 1);
+        ShoeOrchard high = Check.of("tree a boot last 30 age 0 ; tree b boot last 28 age 0 ; pinch 1 ; bears size + 10 ;");
+        high.feel(0, true);
+        feet("39 and 40", high, 2, 39, 40);
+        Check.due("b parts 40 from 39", high.ask(), 1);
+        ShoeOrchard ends = Check.of("tree a boot last 0 age 0 ; tree b boot last 30 age 0 ; pinch 0 ; bears size + ( size = 30 ) * 10 ;");
+        Check.due("0 from all others, as 40 is", ends.ask(), 0);
+        ends.feel(0, false);
+        Check.due("40 from all others", ends.ask(), 1);
     }
 
     /** Boots by lasts, with pinch 5, of which the first (20) was FITTED: 15 to 25 are left. */

@@ -5,7 +5,8 @@ import java.util.Random;
 /** Runs of random calls, always the same ones, each answer held against the Oracle's. */
 public final class OracleTest {
     private static final int RUNS = 900;
-    private static final int CALLS = 420;
+    /** A told text may go beyond it, but not beyond 512. */
+    private static final int CALLS = 400;
     private static final String[] WORDS = ("tree last age person feet pinch noon frost bears try share graft prune year brogue "
             + "boot slipper sandal plain child hopper old not and or size years chill date ta tb tc pa pb pc ( ) < = + - * ; ; "
             + "0 1 5 31 12345 abcdefghi A , 9999").split(" ");
@@ -81,11 +82,11 @@ public final class OracleTest {
     }
 
     private int tree() {
-        return some(program.count(0));
+        return some(oracle.count(0));
     }
 
     private int person() {
-        return some(program.count(1));
+        return some(oracle.count(1));
     }
 
     private void tell(String text, boolean orchard) {

@@ -4,6 +4,8 @@ import java.util.NoSuchElementException;
 /** All calls live in one room: an object takes little of it, and its calls take nothing more. */
 public final class RoomTest {
     private static final int MOST_BYTES_OF_AN_OBJECT = 40_000;
+    /** Each on an object of its own, which is used for at most 512 calls. */
+    private static final int ROUNDS = 40;
     private static final com.sun.management.ThreadMXBean THREADS =
             (com.sun.management.ThreadMXBean) ManagementFactory.getThreadMXBean();
     private static int sink;
@@ -21,11 +23,15 @@ public final class RoomTest {
         long[] packedText = packed(text);
         long[] packedLines = packed(lines);
         calls(orchard, packedText, packedLines);
-        before = bytes();
-        for (int i = 0; i < 40; i++) {
-            calls(orchard, packedText, packedLines);
+        ShoeOrchard[] others = new ShoeOrchard[ROUNDS];
+        for (int i = 0; i < ROUNDS; i++) {
+            others[i] = new ShoeOrchard();
         }
-        Check.due("bytes of 40 rounds of calls", bytes() - before < 4_000, true);
+        before = bytes();
+        for (int i = 0; i < ROUNDS; i++) {
+            calls(others[i], packedText, packedLines);
+        }
+        Check.due("bytes of the rounds of calls", bytes() - before < 4_000, true);
         System.out.println("sum of answers " + sink);
         Check.end();
     }
