@@ -498,12 +498,22 @@ final class DoingEdges {
         y.feel(1, true);
         y.feel(0, false);
         y.mark(2, false);
-        y.feel(0, true);
-        Check.dueRow("none of 7, 8 and 4, 5, 6", new int[] {y.count(10), y.feet(0)}, 3, 0);
+        y.mark(0, true);
+        y.feel(0, false);
+        y.feel(1, true);
+        y.feel(1, false);
+        Check.dueRow("by b and not by b", new int[] {y.count(10), y.feet(0)}, 3, 0);
         y.mark(1, true);
         Check.dueRow("by a, not by b", new int[] {y.count(10), y.feet(0), y.feet(1), y.feet(2)}, 2, 2, 4, 5);
         y.mark(2, true);
         Check.dueRow("by b, not by a", new int[] {y.count(10), y.feet(0), y.feet(1), y.feet(2)}, 2, 2, 7, 8);
+        y.mark(0, true);
+        y.feel(0, false);
+        y.mark(3, false);
+        y.mark(1, true);
+        Check.dueRow("by a, not by b, again", new int[] {y.count(10), y.feet(0), y.feet(1), y.feet(2)}, 2, 2, 4, 5);
+        y.mark(3, true);
+        Check.dueRow("not by a", new int[] {y.count(10), y.feet(0), y.feet(1), y.feet(2)}, 1, 38, 0, 40);
         y.mark(0, true);
         Check.dueRow("by none", new int[] {y.count(10), y.feet(0), y.feet(1), y.feet(2)}, 0, 41, 0, 40);
     }

@@ -5,6 +5,8 @@ final class LanguageEdges {
 
     static void run() {
         anyNumberOfLines();
+        formsOfOrchards();
+        formsOfMornings();
         sixTrees();
         kindsOfTrees();
         lasts();
@@ -54,6 +56,69 @@ final class LanguageEdges {
         Check.morningFault(0, "", "year ;");
         Check.morningFault(0, "", "year ; year ;");
         Check.morningFault(1, "", "year ; ^;");
+    }
+
+    private static String joined(String[] tokens, int from, int to) {
+        StringBuilder text = new StringBuilder();
+        for (int i = from; i < to; i++) {
+            text.append(tokens[i]).append(' ');
+        }
+        return text.toString();
+    }
+
+    /** Of a text each begin, the text without one token, and with one of them twice; told is "" for an ORCHARD. */
+    private static void shortAndLong(String told, String text) {
+        String[] tokens = text.split(" ");
+        for (int i = 0; i < tokens.length; i++) {
+            boolean whole = i == 0 || tokens[i - 1].equals(";");
+            String begin = joined(tokens, 0, i);
+            fault(whole ? 0 : 1, told, begin + "^");
+            fault(1, told, begin + "^" + joined(tokens, i + 1, tokens.length));
+            fault(1, told, begin + tokens[i] + " ^" + joined(tokens, i, tokens.length));
+        }
+        fault(0, told, text);
+    }
+
+    private static void fault(int kind, String told, String text) {
+        if (told.isEmpty()) {
+            Check.orchardFault(kind, kind == 0 ? text.replace("^", "") : text);
+        } else {
+            Check.morningFault(kind, told, kind == 0 ? text.replace("^", "") : text);
+        }
+    }
+
+    private static void formsOfOrchards() {
+        Sentence.of("3", "tree NAME KIND last N age N ; person NAME KIND feet N ; pinch N ; noon N ; frost N N .. ; bears E ;");
+        shortAndLong("", "tree a boot last 3 age 2 ; person p old feet 4 ; pinch 2 ; noon 2 ; bears 1 ; person q plain feet 0 ;");
+        Check.orchardFault(0, "frost 1 ;");
+        Check.orchardFault(0, "frost 1 2 ;");
+        Check.orchardFault(1, "^1 2 ;");
+        Check.orchardFault(1, "frost ^; pinch 2 ;");
+        Check.orchardFault(1, "frost 1 2 ^pinch 2 ;");
+        Check.orchardFault(1, "frost 1 2 ; ^; pinch 2 ;");
+        Check.orchardFault(1, "frost ^");
+        Check.orchardFault(1, "frost 1 2 ^");
+    }
+
+    private static void formsOfMornings() {
+        Sentence.of("4", "try NAME NAME ; share NAME NAME ; graft NAME NAME ; prune NAME ; year ;");
+        String told = "tree tt boot last 1 age 1 ; tree uu boot last 1 age 1 ; person pp old feet 1 ; person qq old feet 1 ;";
+        shortAndLong(told, "year ; prune tt ; year ; year ;");
+        String[] lines = {"try pp tt ;", "share pp qq ;", "graft tt uu ;"};
+        for (String line : lines) {
+            String[] tokens = line.split(" ");
+            Check.morningFault(1, told, "^" + joined(tokens, 1, 4));
+            Check.morningFault(1, told, tokens[0] + " ^");
+            Check.morningFault(1, told, tokens[0] + " ^;");
+            Check.morningFault(1, told, tokens[0] + " ^" + line);
+            Check.morningFault(1, told, joined(tokens, 0, 2) + "^");
+            Check.morningFault(1, told, joined(tokens, 0, 2) + "^;");
+            Check.morningFault(1, told, joined(tokens, 0, 3) + "^");
+            Check.morningFault(1, told, joined(tokens, 0, 3) + "^" + line);
+            Check.morningFault(1, told, joined(tokens, 0, 3) + "^" + tokens[2] + " ;");
+            Check.morningFault(1, told, line + " ^;");
+            Check.morningFault(0, told, line + " " + line);
+        }
     }
 
     private static void sixTrees() {
