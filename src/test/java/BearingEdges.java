@@ -6,6 +6,7 @@ final class BearingEdges {
     static void run() {
         frostThatATreeStands();
         frostAndYears();
+        frostAndSmallFeet();
         frostAndPairsOfThings();
         frostAndWhatIsFelt();
         sizeByOneTree();
@@ -61,6 +62,36 @@ final class BearingEdges {
             boolean stands = OneAndOne.STANDS[kind] >= 3;
             Check.due("a cold year of a " + OneAndOne.TREES[kind], z.chance(0, 1, 10), stands ? 1000000 : 0);
             Check.due("a mild year", z.chance(0, 1, 0), 1000000);
+        }
+    }
+
+    /** What is not borne is none, not a SIZE just below 0. */
+    private static void frostAndSmallFeet() {
+        Sentence.of("5-8 14-21 26-31 34", "A TREE BEARS a pair if the frost of the year is no more than it stands");
+        for (int kind = 0; kind < 4; kind++) {
+            for (int frost = 0; frost <= 3; frost++) {
+                boolean bears = frost <= OneAndOne.STANDS[kind];
+                for (String person : OneAndOne.PERSONS) {
+                    for (int feet = 0; feet <= 5; feet++) {
+                        String what = OneAndOne.TREES[kind] + " in frost " + frost + " of " + person + " " + feet;
+                        ShoeOrchard x = Check.of(OneAndOne.text(OneAndOne.TREES[kind], 0, person, feet) + "pinch 5 ; frost " + frost + " ;");
+                        OneAndOne.says(what, x, bears, true);
+                        OneAndOne.judges(what, x, bears, true);
+                        Check.due(what + ": mends", x.mends(0), bears ? 0 : -1);
+                        Check.due(what + ": when", x.when(0), bears ? 0 : -1);
+                        x.feel(0, false);
+                        Check.due(what + ": feet", x.feet(0), bears ? 35 : 41);
+                    }
+                }
+                ShoeOrchard y = Check.of("tree a " + OneAndOne.TREES[kind] + " last 2 age 0 ; person p plain feet 0 ; person q plain feet 0 ; "
+                        + "pinch 0 ; frost " + frost + " ;");
+                Check.due("mends of last 2", y.mends(0), bears ? 2 : -1);
+                y.prune(0);
+                Check.due("mends of last 1", y.mends(0), bears ? 1 : -1);
+                y.prune(0);
+                Check.due("mends of last 0", y.mends(0), bears ? 0 : -1);
+                Check.due("pairs", y.pairs(), bears ? 1 : 0);
+            }
         }
     }
 

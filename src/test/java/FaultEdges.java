@@ -20,7 +20,9 @@ final class FaultEdges {
         kind5Words();
         kind5Parts();
         orchardFromThenOn();
+        nothingIsLeft();
         orchardStays();
+        allAnswersStay();
         morningIsTheMorning();
         morningStays();
         atFirst();
@@ -267,6 +269,63 @@ final class FaultEdges {
         ShoeOrchard empty = used();
         Check.due("an empty one", empty.orchard(), 0);
         Check.dueRow("nothing", counts(empty), 0, 0, 1, 3, 0, 0, 0, 0, 0, 0, 0, 0, 0);
+    }
+
+    /** What an object answers to all that can be asked. */
+    private static String answers(ShoeOrchard x) {
+        StringBuilder text = new StringBuilder();
+        for (int i = -1; i <= 6; i++) {
+            int[] row = {x.tree(i, 3), x.tree(i, 4), x.person(i, 1), x.person(i, 2), x.person(i, 5), x.fitted(i), x.wearers(i), x.shoes(i),
+                x.roads(i), x.order(i), x.mends(i), x.when(i), x.later(i, 3), x.lack(i), x.chance(i, 3, 5)};
+            text.append(java.util.Arrays.toString(row));
+        }
+        for (int what = 0; what < 3; what++) {
+            text.append(x.judged(what)).append(' ').append(x.feet(what)).append(' ').append(x.ages(3, 50, what)).append(' ');
+        }
+        int[] row = {x.ask(), x.pairs(), x.idle(), x.sole(), x.twins(), x.best()};
+        return text.append(java.util.Arrays.toString(row)).append(java.util.Arrays.toString(counts(x))).toString();
+    }
+
+    /** An object whose ORCHARD is as great as can be, of which all has been asked and much been done. */
+    private static ShoeOrchard greatest() {
+        ShoeOrchard x = Check.of(LanguageEdges.trees(6) + LanguageEdges.persons(6) + "noon 1 ; pinch 5 ; frost 1 2 3 ; bears size + date ;");
+        Check.tellMorning(x, "year ; try pa ta ;");
+        answers(x);
+        x.tryOn(5, 5);
+        x.tryOn(4, 4);
+        x.share(5, 3);
+        x.feel(5, true);
+        x.feel(4, false);
+        x.mark(3, false);
+        return x;
+    }
+
+    private static void nothingIsLeft() {
+        Sentence.of("3 5-7 14-36", "Without a FAULT an ORCHARD is the ORCHARD from then on");
+        for (int trees = 0; trees <= 6; trees++) {
+            for (int persons = 0; persons <= 6; persons++) {
+                String text = LanguageEdges.trees(trees).replace("boot", "sandal") + LanguageEdges.persons(persons).replace("old", "plain") + "pinch 0 ;";
+                ShoeOrchard x = greatest();
+                Check.due("told", Check.tell(x, text), 0);
+                Check.due(trees + " TREES, " + persons + " PERSONS as of a new object", answers(x).equals(answers(Check.of(text))), true);
+            }
+        }
+    }
+
+    private static void allAnswersStay() {
+        Sentence.of("3 4 5-7 14-36", "0, or its FAULT (all stays then)");
+        String greatest = LanguageEdges.trees(6) + LanguageEdges.persons(6) + "noon 6 ; pinch 4 ; frost 3 ; bears 7 ; ";
+        for (int trees = 0; trees <= 6; trees += 2) {
+            ShoeOrchard x = Check.of(LanguageEdges.trees(trees) + LanguageEdges.persons(trees));
+            Check.tellMorning(x, "year ; year ;");
+            x.tryOn(0, 0);
+            x.feel(0, true);
+            String before = answers(x);
+            Check.due("a FAULT at last", Check.tell(x, greatest + ";"), 1 + 16 * greatest.length());
+            Check.due("the ORCHARD", answers(x).equals(before), true);
+            Check.due("a FAULT at last", Check.tellMorning(x, "year ; year ; year ; year"), 1 + 16 * 25);
+            Check.due("the MORNING", answers(x).equals(before), true);
+        }
     }
 
     private static void orchardStays() {

@@ -75,15 +75,19 @@ final class LanguageEdges {
             fault(whole ? 0 : 1, told, begin + "^");
             fault(1, told, begin + "^" + joined(tokens, i + 1, tokens.length));
             fault(1, told, begin + tokens[i] + " ^" + joined(tokens, i, tokens.length));
+            if (!tokens[i].equals(";")) {
+                fault(1, told, begin + "^;");
+                fault(1, told, begin + "^; year");
+            }
         }
         fault(0, told, text);
     }
 
     private static void fault(int kind, String told, String text) {
         if (told.isEmpty()) {
-            Check.orchardFault(kind, kind == 0 ? text.replace("^", "") : text);
+            Check.orchardFault(kind, text);
         } else {
-            Check.morningFault(kind, told, kind == 0 ? text.replace("^", "") : text);
+            Check.morningFault(kind, told, text);
         }
     }
 
@@ -379,6 +383,12 @@ final class LanguageEdges {
         Check.orchardFault(3, persons(6) + "tree ^pa boot last 1 age 1 ;");
         Check.orchardFault(3, persons(6) + "tree ^pf boot last 1 age 1 ;");
         Check.orchardFault(0, "tree a boot last 1 age 1 ; tree b boot last 1 age 1 ; person aa old feet 1 ; person ab old feet 1 ;");
+        String[] names = "a b y z aa ab ba bb yz za zz aaa aab baa bbb bba zzz aaaaaaaa bbbbbbbb zzzzzzzz aaaaaaab baaaaaaa size date".split(" ");
+        for (String one : names) {
+            for (String other : names) {
+                Check.orchardFault(one.equals(other) ? 3 : 0, "tree " + one + " boot last 1 age 1 ; person ^" + other + " old feet 1 ;");
+            }
+        }
         ShoeOrchard x = Check.of("tree a boot last 1 age 1 ;");
         Check.due("in another ORCHARD", Check.tell(x, "person a old feet 1 ;"), 0);
         Check.tell(x, "tree b boot last 1 age 1 ; x");
