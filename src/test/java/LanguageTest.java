@@ -4,6 +4,8 @@ import java.lang.reflect.Method;
 import java.lang.reflect.Modifier;
 import java.nio.file.Files;
 import java.nio.file.Path;
+import java.util.List;
+import java.util.NoSuchElementException;
 import java.util.Set;
 import java.util.TreeSet;
 import java.util.regex.Matcher;
@@ -28,7 +30,7 @@ public final class LanguageTest {
         Check.end();
     }
 
-    private static void face() {
+    private static void face() throws ReflectiveOperationException {
         Class<?> program = ShoeOrchard.class;
         Set<String> faces = new TreeSet<>();
         Set<String> names = new TreeSet<>();
@@ -46,9 +48,18 @@ public final class LanguageTest {
             Check.due(method + " is public or private", hidden || Modifier.isPublic(method.getModifiers()), true);
             Check.due(method + " has a name of its own", hidden && names.contains(method.getName()), false);
         }
+        for (Method method : program.getDeclaredMethods()) {
+            boolean says = List.of(method.getExceptionTypes()).equals(List.of(NoSuchElementException.class));
+            Check.due(method + " says what it throws", says, method.getName().equals("rests"));
+        }
         for (Field field : program.getDeclaredFields()) {
+            boolean constant = Modifier.isFinal(field.getModifiers()) || !Modifier.isStatic(field.getModifiers());
+            Check.due(field + " is no static state", constant, true);
             Check.due(field + " is hidden", Modifier.isPrivate(field.getModifiers()), !field.getName().equals("NONE"));
         }
+        Field none = program.getDeclaredField("NONE");
+        Check.due("NONE is a public constant", none.getModifiers(), Modifier.PUBLIC | Modifier.STATIC | Modifier.FINAL);
+        Check.due("NONE", none.getInt(null), -1);
         for (Constructor<?> constructor : program.getDeclaredConstructors()) {
             Check.due(constructor + " is the one told", constructor.getParameterCount(), 0);
         }

@@ -675,24 +675,23 @@ final class Oracle {
         return bits;
     }
 
-    /** All rows are gone through in order, one sign a PERSON, 6 standing for none. */
+    /** All rows that can be are gone through in order, 6 standing for none; only a better one takes another's place. */
     int matched(int person, boolean byRoad) {
         if (person != -1 && !person(person)) {
             return -2;
         }
-        int persons = now.feet.length;
+        List<int[]> rows = new ArrayList<>();
+        rowsFrom(new int[now.feet.length], 0, rows);
         int best = -1;
         int[] bestRow = null;
-        int[] row = new int[persons];
-        int rows = (int) Math.pow(7, persons);
-        for (int n = 0; n < rows; n++) {
-            for (int p = persons - 1, rest = n; p >= 0; p--, rest /= 7) {
-                row[p] = rest % 7;
+        for (int[] row : rows) {
+            int worth = 0;
+            for (int t : row) {
+                worth += t == 6 ? 0 : byRoad ? ROAD[orchard.trees.get(t).kind()] : 1;
             }
-            int worth = worth(row, byRoad);
             if (worth > best) {
                 best = worth;
-                bestRow = row.clone();
+                bestRow = row;
             }
         }
         if (person == -1) {
@@ -701,21 +700,21 @@ final class Oracle {
         return bestRow[person] == 6 ? -1 : bestRow[person];
     }
 
-    private int worth(int[] row, boolean byRoad) {
-        int worth = 0;
-        int used = 0;
-        for (int p = 0; p < row.length; p++) {
-            int t = row[p];
-            if (t == 6) {
-                continue;
-            }
-            if (!tree(t) || now.shod[p] != -1 || (used >> t & 1) != 0 || !now.fits(p, t) || now.taken(t)) {
-                return -1;
-            }
-            used |= 1 << t;
-            worth += byRoad ? ROAD[orchard.trees.get(t).kind()] : 1;
+    private void rowsFrom(int[] row, int p, List<int[]> rows) {
+        if (p == row.length) {
+            rows.add(row.clone());
+            return;
         }
-        return worth;
+        for (int t = 0; t <= 6; t++) {
+            boolean free = t == 6 || tree(t) && now.shod[p] == -1 && !now.taken(t) && now.fits(p, t);
+            for (int before = 0; before < p; before++) {
+                free &= t == 6 || row[before] != t;
+            }
+            if (free) {
+                row[p] = t;
+                rowsFrom(row, p + 1, rows);
+            }
+        }
     }
 
     int order(int what) {

@@ -151,11 +151,11 @@ public final class OracleTest {
         switch (below(9)) {
             case 0 -> {
                 int q = below(40) == 0 ? person() : below(4) == 0 ? -1 : p;
-                due("shoes " + q, program.shoes(q), below(8) == 0 || rowsAreFew() ? oracle.matched(q, false) : program.shoes(q));
+                due("shoes " + q, program.shoes(q), oracle.matched(q, false));
             }
             case 1 -> {
                 int q = below(4) == 0 ? -1 : p;
-                due("roads " + q, program.roads(q), below(8) == 0 || rowsAreFew() ? oracle.matched(q, true) : program.roads(q));
+                due("roads " + q, program.roads(q), oracle.matched(q, true));
             }
             case 2 -> {
                 int q = below(4) == 0 ? -1 : p;
@@ -187,11 +187,6 @@ public final class OracleTest {
                         Check.rests(program, both, loses, gets, what), oracle.rests(both, loses, gets, what));
             }
         }
-    }
-
-    /** The oracle goes through 7 to the power of PERSONS rows. */
-    private boolean rowsAreFew() {
-        return program.count(1) <= 4;
     }
 
     private void askLittle() {
